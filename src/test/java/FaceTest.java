@@ -1,0 +1,97 @@
+import java.lang.reflect.Constructor;
+import java.lang.reflect.Field;
+import java.lang.reflect.Method;
+import java.lang.reflect.Modifier;
+import java.nio.file.Files;
+import java.nio.file.Path;
+import java.util.Arrays;
+import java.util.TreeSet;
+import java.util.regex.Matcher;
+import java.util.regex.Pattern;
+
+/** The class has the document's face and no more, and its file keeps to what LANGUAGE.md leaves. */
+public final class FaceTest {
+    private static final Check CHECK = new Check("FaceTest");
+    private static final String[] METHODS = {
+        "type(1)", "clear(0)", "field(0)", "station(2)", "reading(2)", "hears(2)", "strikes(1)", "sets(2)",
+        "undo(0)", "group(2)", "place(2)", "verdict(1)", "due(5)", "odds(3)", "keep(1)", "back(1)", "count(1)"
+    };
+    private static final String[] OUTSIDE = {
+        "import", "package", "throw", "throws", "try", "catch", "synchronized", "assert", "protected",
+        "Object", "Exact", "toString", "hashCode", "->", "::", "@"
+    };
+
+    public static void main(String[] args) throws Exception {
+        face();
+        members();
+        source();
+        CHECK.close();
+    }
+
+    private static void due(String call, long got, long want) {
+        CHECK.due(call, got, want);
+    }
+
+    private static void face() {
+        due("BAD", StrokeSeek.BAD, -1);
+        due("STATE", StrokeSeek.STATE, -2);
+        due("FULL", StrokeSeek.FULL, -3);
+        due("NONE", StrokeSeek.NONE, -9);
+        due("NO", StrokeSeek.NO, -1000000000);
+        int modifiers = StrokeSeek.class.getModifiers();
+        due("public and final", Modifier.isPublic(modifiers) && Modifier.isFinal(modifiers) ? 1 : 0, 1);
+        TreeSet<String> found = new TreeSet<>();
+        for (Method method : StrokeSeek.class.getDeclaredMethods()) {
+            if (Modifier.isPublic(method.getModifiers())) {
+                found.add(method.getName() + "(" + method.getParameterCount() + ")");
+                due("int " + method, method.getReturnType() == int.class ? 1 : 0, 1);
+            }
+        }
+        due("the face's methods " + found, found.equals(new TreeSet<>(Arrays.asList(METHODS))) ? 1 : 0, 1);
+    }
+
+    private static void members() {
+        int constants = 0;
+        for (Field field : StrokeSeek.class.getDeclaredFields()) {
+            boolean isPublic = Modifier.isPublic(field.getModifiers());
+            constants += isPublic ? 1 : 0;
+            due("private or public " + field, isPublic || Modifier.isPrivate(field.getModifiers()) ? 1 : 0, 1);
+        }
+        due("public constants", constants, 5);
+        for (Method method : StrokeSeek.class.getDeclaredMethods()) {
+            int modifiers = method.getModifiers();
+            boolean fine = Modifier.isPublic(modifiers) || Modifier.isPrivate(modifiers) || method.isSynthetic();
+            due("private or public " + method, fine ? 1 : 0, 1);
+            due("at most seven parameters " + method, method.getParameterCount() <= 7 ? 1 : 0, 1);
+        }
+        for (Constructor<?> constructor : StrokeSeek.class.getDeclaredConstructors()) {
+            due("constructor " + constructor, constructor.getParameterCount(), 0);
+        }
+        Class<?>[] inside = StrokeSeek.class.getDeclaredClasses();
+        due("at most twelve classes", inside.length <= 11 ? 1 : 0, 1);
+        for (Class<?> one : inside) {
+            due("static " + one, Modifier.isStatic(one.getModifiers()) ? 1 : 0, 1);
+            for (Method method : one.getDeclaredMethods()) {
+                boolean faceName = Arrays.stream(METHODS).anyMatch(m -> m.startsWith(method.getName() + "("));
+                due("no face's name " + method, faceName ? 1 : 0, 0);
+            }
+        }
+    }
+
+    private static void source() throws Exception {
+        Path file = Path.of(System.getProperty("project", "."), "src/main/java/StrokeSeek.java");
+        String code = Files.readString(file).replaceAll("(?s)/\\*.*?\\*/", " ").replaceAll("//[^\n]*", " ");
+        for (String word : OUTSIDE) {
+            boolean letters = Character.isLetter(word.charAt(0));
+            Pattern pattern = Pattern.compile(letters ? "\\b" + word + "\\b" : Pattern.quote(word));
+            due("'" + word + "' in the code", pattern.matcher(code).find() ? 1 : 0, 0);
+        }
+        Matcher library = Pattern.compile("\\b(Math|Integer|Long|System|Arrays)\\.(\\w+)").matcher(code);
+        while (library.find()) {
+            String call = library.group(1) + "." + library.group(2);
+            boolean known = Arrays.asList("Math.min", "Math.max", "Math.abs", "Integer.bitCount", "System.arraycopy")
+                    .contains(call);
+            due("library's " + call, known ? 1 : 0, 1);
+        }
+    }
+}
