@@ -154,7 +154,13 @@ public final class GroupsTest {
         due("a square's four", square.group(0, 4), 15);
         due("a square's verdict", square.group(0, 2), 2);
         due("a square's worst", square.group(0, 5), 49);
-        // a seventh of them off: the four without it
+        // nearly on a plane, so that the place is far away
+        StrokeSeek far = Check.read("s2 27p;s8 19p;s26 26p;s28 5p;h0 32;h1 30;h2 33;h3 27;");
+        due("worst far away", far.group(0, 5), 809741477);
+        StrokeSeek farther = Check.read("s29 25p;s18 21p;s6 28p;s0 13p;h0 38;h1 37;h2 31;h3 36;");
+        due("worst at most", farther.group(0, 5), 999999999);
+        due("four of that", farther.group(0, 4), 15);
+        // one of them off
         StrokeSeek y = Check.read(SIX);
         y.strikes(0);
         y.hears(0, 6);
@@ -191,6 +197,9 @@ public final class GroupsTest {
         }
         due("can at 63", late.group(0, 6), many);
         due("can at 63, first", late.group(0, 7), first);
+        // two who would have heard it at -1 alone: 5 and 4 away
+        StrokeSeek before = Check.read("s0 0p;s9 0p;h0 4;h1 3;");
+        due("no time below 0", before.group(0, 6), 0);
         // the cut half counts: 29 of a double clock is 14
         StrokeSeek twice = Check.read("s0 0d;h0 29;s10 0p;h1 4;");
         // 10 apart in way and in time: 10 .. 14, 0 at 4 .. 0
