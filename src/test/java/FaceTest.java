@@ -5,6 +5,7 @@ import java.lang.reflect.Modifier;
 import java.nio.file.Files;
 import java.nio.file.Path;
 import java.util.Arrays;
+import java.util.Random;
 import java.util.TreeSet;
 import java.util.regex.Matcher;
 import java.util.regex.Pattern;
@@ -25,6 +26,7 @@ public final class FaceTest {
         face();
         members();
         source();
+        neverThrows();
         CHECK.close();
     }
 
@@ -92,6 +94,51 @@ public final class FaceTest {
             boolean known = Arrays.asList("Math.min", "Math.max", "Math.abs", "Integer.bitCount", "System.arraycopy")
                     .contains(call);
             due("library's " + call, known ? 1 : 0, 1);
+        }
+    }
+
+    /** Rule 7, for any arguments in any state: a throw ends the test. What the 513th call answers is free. */
+    private static void neverThrows() throws Exception {
+        Random random = new Random(7);
+        String letters = "s10 10p;h0 5; s3 4l;h1 60;";
+        for (int run = 0; run < 40; run++) {
+            StrokeSeek seek = new StrokeSeek();
+            for (int i = 0; i < 2000; i++) {
+                if (random.nextInt(60) == 0) {
+                    Check.tell(seek, letters.substring(0, random.nextInt(letters.length() + 1)));
+                }
+                Method method = faceMethod(random.nextInt(METHODS.length));
+                Object[] arguments = new Object[method.getParameterCount()];
+                for (int j = 0; j < arguments.length; j++) {
+                    arguments[j] = anyNumber(random);
+                }
+                method.invoke(seek, arguments);
+            }
+        }
+    }
+
+    private static Method faceMethod(int i) throws Exception {
+        String name = METHODS[i].substring(0, METHODS[i].indexOf('('));
+        for (Method method : StrokeSeek.class.getMethods()) {
+            if (method.getName().equals(name)) {
+                return method;
+            }
+        }
+        throw new IllegalStateException("no method " + name);
+    }
+
+    private static int anyNumber(Random random) {
+        switch (random.nextInt(8)) {
+            case 0:
+                return random.nextInt();
+            case 1:
+                return 1 << random.nextInt(32);
+            case 2:
+                return random.nextBoolean() ? Integer.MIN_VALUE : Integer.MAX_VALUE;
+            case 3:
+                return random.nextInt(70) - 2;
+            default:
+                return random.nextInt(8);
         }
     }
 }

@@ -27,6 +27,7 @@ public final class FoundEdgesTest {
         dueEverywhere();
         canOfOne();
         canTimesFrom0To60();
+        canOfTwo();
         canInsideTheField();
         canOfNone();
         canByTimeNotByTold();
@@ -38,6 +39,7 @@ public final class FoundEdgesTest {
         nothingUndoneBehindBack();
         readAnew();
         asThingsAreNow();
+        eachAskedByItself();
         CHECK.close();
     }
 
@@ -85,8 +87,8 @@ public final class FoundEdgesTest {
         due("place of group -1", x.place(-1, 0), StrokeSeek.NO);
     }
 
-    // "OUT of a GROUP: the fewest READINGS of it (0, 1 or 2) without which all others are SURE; of several such sets the
-    // one that is the least number (bits); NONE."
+    // "OUT of a GROUP: the fewest READINGS of it (0, 1 or 2) without which all others are SURE; of several such
+    // sets the one that is the least number (bits); NONE."
 
     private static void outDue(String text, int group, int want) {
         StrokeSeek x = Check.read(text);
@@ -155,8 +157,8 @@ public final class FoundEdgesTest {
         due("its out", x.group(1, 3), NONE);
     }
 
-    // "FOUR of a GROUP: of all fours of its READINGS with RANK 3 that by which the WORST is least, of several the least
-    // number (bits); .. NONE (fewer than four, none has RANK 3)."
+    // "FOUR of a GROUP: of all fours of its READINGS with RANK 3 that by which the WORST is least, of several
+    // the least number (bits); .. NONE (fewer than four, none has RANK 3)."
 
     private static void fourDue(String text, int group, int four, int worst) {
         StrokeSeek x = Check.read(text);
@@ -175,7 +177,8 @@ public final class FoundEdgesTest {
     private static void fourWithoutRank3IsNone() {
         fourDue("s0 0p;s6 0p;s12 0p;s18 0p;h0 10;h1 8;h2 10;h3 14;", 15, NONE, NONE);
         fourDue("s0 0p;s5 0p;s0 5p;s9 9p;s7 2p;h0 9;h1 9;h2 9;h3 9;h4 9;", 31, NONE, NONE);
-        // only those fours with the last have rank 3: x and y are 5, and 100 - 2 t is 39; 50 less 25.5 squared is -600.25
+        // only those fours with the last have rank 3: x and y are 5, and 100 - 2 t is 39;
+        // 50 less the square of 25.5 is -600.25
         fourDue("s0 0p;s10 0p;s0 10p;s10 10p;s5 5p;h0 5;h1 5;h2 5;h3 5;h4 6;", 31, 23, 600);
     }
 
@@ -207,8 +210,9 @@ public final class FoundEdgesTest {
         fourDue("s0 0p;s10 0p;s0 10p;s10 10p;h0 5;h1 5;h2 5;h3 6;", 15, 15, 49);
     }
 
-    // "DUE of a STATION, a stroke at x, y (0 .. 29), t (0 .. 60): the TIME at which it hears that, if it is a whole number;
-    // what its CLOCK tells then (0 .. 60; LATE 3 more, EARLY 3 less, DOUBLE twice, BACK 60 less); NONE."
+    // "DUE of a STATION, a stroke at x, y (0 .. 29), t (0 .. 60): the TIME at which it hears that, if it is a
+    // whole number; what its CLOCK tells then (0 .. 60; LATE 3 more, EARLY 3 less, DOUBLE twice, BACK 60 less);
+    // NONE."
 
     private static void dueEverywhere() {
         for (int clock = 0; clock < 5; clock++) {
@@ -236,20 +240,23 @@ public final class FoundEdgesTest {
         }
     }
 
-    // "CAN: of all places x, y (0 .. 29) and t (0 .. 60) in whole numbers those by which each READING of a GROUP is DUE just
-    // at its TIME: how many; the first (by x, y, t): 10000 x and 100 y and t; NONE."
+    // "CAN: of all places x, y (0 .. 29) and t (0 .. 60) in whole numbers those by which each READING of a
+    // GROUP is DUE just at its TIME: how many; the first (by x, y, t): 10000 x and 100 y and t; NONE."
 
-    /** By going through all places, of one reading at X, Y and a TIME. */
-    private static void canDue(String text, int atX, int atY, int time) {
+    /** By going through all places, of readings at X, Y with a TIME each. */
+    private static void canDue(String text, int[]... readings) {
         int many = 0;
         int first = NONE;
-        for (int place = 0; place < 900; place++) {
-            int a = place / 30;
-            int b = place % 30;
-            int square = (a - atX) * (a - atX) + (b - atY) * (b - atY);
-            int way = (int) Math.sqrt(square);
-            int t = time - way;
-            if (way * way == square && t >= 0 && t <= 60) {
+        for (int place = 0; place < 30 * 30 * 61; place++) {
+            int a = place / 61 / 30;
+            int b = place / 61 % 30;
+            int t = place % 61;
+            boolean all = true;
+            for (int[] r : readings) {
+                int way = r[2] - t;
+                all &= way >= 0 && (a - r[0]) * (a - r[0]) + (b - r[1]) * (b - r[1]) == way * way;
+            }
+            if (all) {
                 first = many == 0 ? 10000 * a + 100 * b + t : first;
                 many++;
             }
@@ -261,11 +268,22 @@ public final class FoundEdgesTest {
 
     private static void canOfOne() {
         for (int told = 0; told <= 60; told++) {
-            canDue("s15 14p;h0 " + told + ";", 15, 14, told);
-            canDue("s0 0l;h0 " + told + ";", 0, 0, told - 3);
-            canDue("s29 29e;h0 " + told + ";", 29, 29, told + 3);
-            canDue("s29 0d;h0 " + told + ";", 29, 0, told / 2);
-            canDue("s3 27b;h0 " + told + ";", 3, 27, 60 - told);
+            canDue("s15 14p;h0 " + told + ";", new int[] {15, 14, told});
+            canDue("s0 0l;h0 " + told + ";", new int[] {0, 0, told - 3});
+            canDue("s29 29e;h0 " + told + ";", new int[] {29, 29, told + 3});
+            canDue("s29 0d;h0 " + told + ";", new int[] {29, 0, told / 2});
+            canDue("s3 27b;h0 " + told + ";", new int[] {3, 27, 60 - told});
+        }
+    }
+
+    /** Each of the two is due at its time, not one of them alone: 6 and 8 apart, all times that go together. */
+    private static void canOfTwo() {
+        for (int one = 0; one <= 14; one++) {
+            for (int other = Math.max(0, one - 10); other <= one + 10; other++) {
+                int[] left = {9, 3, one};
+                int[] right = {15, 11, other};
+                canDue("s9 3p;s15 11p;h0 " + one + ";h1 " + other + ";", left, right);
+            }
         }
     }
 
@@ -308,7 +326,8 @@ public final class FoundEdgesTest {
         due("it would tell", x.due(0, 7, 9, 0, 1), 0);
     }
 
-    // "ODDS by x (0 .. 10) of a GROUP: each READING of it is lost by x of 10, for itself: that what is left is SURE"
+    // "ODDS by x (0 .. 10) of a GROUP: each READING of it is lost by x of 10, for itself: that what is left is
+    // SURE"
 
     private static void oddsDue(StrokeSeek x, int tenths, long up, long down) {
         long divisor = java.math.BigInteger.valueOf(up).gcd(java.math.BigInteger.valueOf(down)).longValue();
@@ -506,5 +525,37 @@ public final class FoundEdgesTest {
         due("odds now", x.odds(0, 0, 0), odds);
         due("sure groups now", x.count(3), verdict == 0 ? 1 : 0);
         due("place now", x.place(0, 0), verdict == 0 ? 10 : StrokeSeek.NO);
+    }
+
+    /** No answer needs another one to have been asked ahead of it. */
+    private static void eachAskedByItself() {
+        String text = SIX + "h4 17;h0 5;h1 15;h2 12;h3 14;h5 60;";
+        int[] want = {31, 3, 2, 1, 23, 14, 0, NONE};
+        int[] single = {32, 0, 1, NONE, NONE, NONE};
+        for (int what = 0; what <= 7; what++) {
+            due("group alone " + what, Check.read(text).group(0, what), want[what]);
+            StrokeSeek x = Check.read(text);
+            x.group(1, what);
+            due("group behind the other " + what, x.group(0, what), want[what]);
+            if (what < single.length) {
+                due("the other alone " + what, Check.read(text).group(1, what), single[what]);
+            }
+        }
+        for (int k = 0; k < 6; k++) {
+            due("group of reading " + k + " alone", Check.read(text).reading(k, 3), k < 5 ? 0 : 1);
+        }
+        StrokeSeek y = Check.read(text);
+        y.count(2);
+        y.hears(3, 59);
+        due("group of one just heard", y.reading(6, 3), 1);
+        y.strikes(0);
+        due("group of one moved up", y.reading(4, 3), 1);
+        y.sets(5, 3);
+        due("group behind sets", y.reading(4, 3), 1);
+        due("groups alone", Check.read(text).count(2), 2);
+        due("sure groups alone", Check.read(text).count(3), 0);
+        due("verdict alone", Check.read(text).verdict(30), 0);
+        due("odds alone", Check.read(text).odds(0, 5, 1), 32);
+        due("place alone", Check.read(SIX + "h0 5;h1 15;h2 12;h3 14;").place(0, 2), 10);
     }
 }

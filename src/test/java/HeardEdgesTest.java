@@ -39,8 +39,8 @@ public final class HeardEdgesTest {
         CHECK.due(call, got, want);
     }
 
-    // "Two READINGS go TOGETHER, if they are of unlike STATIONS, and the square of what their TIMES are apart is no more
-    // than the square of what these are apart."
+    // "Two READINGS go TOGETHER, if they are of unlike STATIONS, and the square of what their TIMES are apart
+    // is no more than the square of what these are apart."
 
     private static void unlikeStations() {
         due("one station, one time", Check.read("s5 5p;h0 9;h0 9;").count(2), 2);
@@ -78,8 +78,8 @@ public final class HeardEdgesTest {
         due("66 apart", Check.read("s0 0e;s29 29l;h0 60;h1 0;").count(2), 2);
     }
 
-    // "GROUPS 0, 1, ..: READINGS, by TIMES, of one TIME by STATIONS, of one STATION by numbers, come each into the first
-    // GROUP with all of which it goes TOGETHER, else into a new one."
+    // "GROUPS 0, 1, ..: READINGS, by TIMES, of one TIME by STATIONS, of one STATION by numbers, come each into
+    // the first GROUP with all of which it goes TOGETHER, else into a new one."
 
     private static void groupsByTimes() {
         // none goes with another; by times: 2 (10), 0 (30), 1 (50)
@@ -95,6 +95,10 @@ public final class HeardEdgesTest {
         due("the first time is 17", y.group(0, 0), 2);
         due("the second is 19", y.group(1, 0), 4);
         due("the third is 20", y.group(2, 0), 1);
+        // a step earlier is ahead, whatever the station
+        StrokeSeek step = Check.read("s4 4p;s4 4p;h1 7;h0 8;");
+        due("a step earlier", step.group(0, 0), 1);
+        due("a step later", step.group(1, 0), 2);
         // a time below 0 is ahead of 0
         StrokeSeek z = Check.read("s0 0p;s0 0l;h0 0;h1 0;");
         due("below 0 is ahead", z.group(0, 0), 2);
@@ -198,8 +202,8 @@ public final class HeardEdgesTest {
         due("x and t", Check.read("s0 5p;s9 5p;s20 5p;h0 9;h1 10;h2 17;").group(0, 1), 2);
     }
 
-    // "0 SURE: RANK is 3, there is one x, y, t for all, and for the first of them the square of x less X1 and that of
-    // y less Y1 together are that of T1 less t, and t is no more than T1."
+    // "0 SURE: RANK is 3, there is one x, y, t for all, and for the first of them the square of x less X1 and
+    // that of y less Y1 together are that of T1 less t, and t is no more than T1."
 
     private static void sureFromFourOn() {
         StrokeSeek x = Check.read(FIVE + "h1 15;h2 12;h3 14;h4 10;h0 5;");

@@ -1,6 +1,6 @@
 /**
- * "Refused, and nothing changes, the first of these: BAD (a number is not as told, or there is no such thing), STATE (as
- * told), FULL.", "NO: What is BAD, or none, where a number may be below 0.", and that asking changes nothing.
+ * "Refused, and nothing changes, the first of these: BAD (a number is not as told, or there is no such thing),
+ * STATE (as told), FULL.", "NO: What is BAD, or none, where a number may be below 0.", and that asking changes nothing.
  */
 public final class RefusedTest {
     private static final Check CHECK = new Check("RefusedTest");
@@ -147,8 +147,9 @@ public final class RefusedTest {
         for (int wrong : new int[] {-1, 4, LEAST, MOST}) {
             refused("reading what " + wrong, told, x -> x.reading(0, wrong), NO);
         }
-        int past = 1 << readings;
-        for (int set : new int[] {0, -1, past, past + 1, 2 * past - 1, 512, 1024, 1 << 30, LEAST, LEAST + 1, -512, MOST}) {
+        int next = 1 << readings;
+        int[] sets = {0, -1, next, next + 1, 2 * next - 1, 512, 1024, 1 << 30, -512, LEAST, LEAST + 1, MOST};
+        for (int set : sets) {
             refused("verdict " + set, told, x -> x.verdict(set), BAD);
         }
     }

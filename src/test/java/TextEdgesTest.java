@@ -232,7 +232,8 @@ public final class TextEdgesTest {
         }
     }
 
-    // "TIME of a READING: PLAIN: as TOLD; LATE: 3 less; EARLY: 3 more; DOUBLE: half of it, cut; BACK: 60 less it."
+    // "TIME of a READING: PLAIN: as TOLD; LATE: 3 less; EARLY: 3 more; DOUBLE: half of it, cut; BACK: 60 less
+    // it."
 
     private static void timeOfEachClock() {
         for (int told = 0; told <= 60; told++) {
@@ -308,7 +309,8 @@ public final class TextEdgesTest {
         }
     }
 
-    // "FAULT: the place of the first letter of the first TOKEN that can't stand there", "of any other letter .. that TOKEN's"
+    // "FAULT: the place of the first letter of the first TOKEN that can't stand there", "of any other letter ..
+    // that TOKEN's"
 
     private static void everyLetterAtEveryPlace() {
         lettersDue("", "sh ");
