@@ -167,7 +167,11 @@ public final class TextEdgesTest {
             }
         }
         faultDue("s3 4;", 4);
-        faultDue("s3 4 5;", 5);
+        // no number stands for a letter, not even that letter's own
+        for (int n = 0; n <= 130; n++) {
+            faultDue("s3 4 " + n + ";", 5);
+            faultDue(n + " 3 4p;", 0);
+        }
         faultDue("s3 4pp;", 5);
         faultDue("sp 3 4;", 1);
     }
@@ -299,6 +303,8 @@ public final class TextEdgesTest {
         faultDue("s123p;", 1);
         faultDue("s12p;", 3);
         faultDue("s1 2p;h05;", 7);
+        faultDue("s1 2p;h0p;", 8);
+        faultDue("s1 2p;hp 5;", 7);
         faultDue("s1 2p;h0 4 5;", 11);
     }
 
