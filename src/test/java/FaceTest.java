@@ -47,6 +47,8 @@ public final class FaceTest {
             if (Modifier.isPublic(method.getModifiers())) {
                 found.add(method.getName() + "(" + method.getParameterCount() + ")");
                 due("int " + method, method.getReturnType() == int.class ? 1 : 0, 1);
+                boolean ints = Arrays.stream(method.getParameterTypes()).allMatch(type -> type == int.class);
+                due("of ints alone " + method, ints ? 1 : 0, 1);
             }
         }
         due("the face's methods " + found, found.equals(new TreeSet<>(Arrays.asList(METHODS))) ? 1 : 0, 1);
@@ -68,16 +70,30 @@ public final class FaceTest {
         }
         for (Constructor<?> constructor : StrokeSeek.class.getDeclaredConstructors()) {
             due("constructor " + constructor, constructor.getParameterCount(), 0);
+            due("public " + constructor, Modifier.isPublic(constructor.getModifiers()) ? 1 : 0, 1);
         }
+        fields(StrokeSeek.class);
         Class<?>[] inside = StrokeSeek.class.getDeclaredClasses();
         due("at most twelve classes", inside.length <= 11 ? 1 : 0, 1);
         for (Class<?> one : inside) {
             due("static " + one, Modifier.isStatic(one.getModifiers()) ? 1 : 0, 1);
+            fields(one);
             for (Method method : one.getDeclaredMethods()) {
                 boolean faceName = Arrays.stream(METHODS).anyMatch(m -> m.startsWith(method.getName() + "("));
                 due("no face's name " + method, faceName ? 1 : 0, 0);
             }
         }
+    }
+
+    /** Rules 5 and 11: no static state, and some twenty fields beside the constants. */
+    private static void fields(Class<?> one) {
+        int own = 0;
+        for (Field field : one.getDeclaredFields()) {
+            boolean isStatic = Modifier.isStatic(field.getModifiers());
+            own += isStatic ? 0 : 1;
+            due("final " + field, !isStatic || Modifier.isFinal(field.getModifiers()) ? 1 : 0, 1);
+        }
+        due("at most twenty fields of " + one, own <= 20 ? 1 : 0, 1);
     }
 
     private static void source() throws Exception {
@@ -95,6 +111,13 @@ public final class FaceTest {
                     .contains(call);
             due("library's " + call, known ? 1 : 0, 1);
         }
+        Matcher method = Pattern.compile("(?ms)^( {4}| {8})\\w[\\w\\[\\] ]+\\([^)]*\\) \\{$.*?^\\1\\}$").matcher(code);
+        int methods = 0;
+        while (method.find()) {
+            methods++;
+            due("at most sixty lines\n" + method.group(), method.group().lines().count() <= 60 ? 1 : 0, 1);
+        }
+        due("the methods were found", methods > 60 ? 1 : 0, 1);
     }
 
     /** Rule 7, for any arguments in any state: a throw ends the test. What the 513th call answers is free. */
